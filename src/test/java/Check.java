@@ -1,0 +1,125 @@
+import java.util.NoSuchElementException;
+
+/** What the tests share: comparing answers, feeding tapes, ending with 1 if an answer was wrong. */
+final class Check {
+    interface Call {
+        long answer();
+    }
+
+    private static int wrong = 0;
+    private static int asked = 0;
+
+    private Check() {
+    }
+
+    static void same(String what, long got, long due) {
+        asked++;
+        if (got != due) {
+            wrong++;
+            if (wrong <= 50) {
+                System.out.println(what + " answered " + got + ", due is " + due);
+            }
+        }
+    }
+
+    static void same(String what, boolean got, boolean due) {
+        same(what, got ? 1 : 0, due ? 1 : 0);
+    }
+
+    /** 1 if the call throws NoSuchElementException, and no other exception at all. */
+    static void throwsNoSuch(String what, Call call) {
+        int thrown = 0;
+        try {
+            call.answer();
+        } catch (NoSuchElementException e) {
+            thrown = 1;
+        }
+        same(what + " throws", thrown, 1);
+    }
+
+    static void finish() {
+        System.out.println(asked + " answers looked at, " + wrong + " wrong");
+        if (wrong != 0 || asked == 0) {
+            System.exit(1);
+        }
+    }
+
+    /** Makes the tape of the house these bytes alone; at most 440. */
+    static void tape(ThreadHouse house, byte[] bytes) {
+        house.end(0);
+        for (int from = 0; from < bytes.length; from += 20) {
+            int[] numbers = new int[5];
+            for (int i = 0; i < 20; i++) {
+                int b = from + i < bytes.length ? bytes[from + i] & 255 : 0;
+                numbers[i / 4] |= b << (24 - 8 * (i % 4));
+            }
+            house.feed(numbers[0], numbers[1], numbers[2], numbers[3], numbers[4]);
+        }
+        house.end(bytes.length);
+    }
+
+    static void tape(ThreadHouse house, int... numbers) {
+        byte[] bytes = new byte[numbers.length];
+        for (int i = 0; i < numbers.length; i++) {
+            bytes[i] = (byte) numbers[i];
+        }
+        tape(house, bytes);
+    }
+
+    static int text(ThreadHouse house, String text) {
+        byte[] bytes = new byte[text.length()];
+        for (int i = 0; i < bytes.length; i++) {
+            bytes[i] = (byte) text.charAt(i);
+        }
+        tape(house, bytes);
+        return house.text();
+    }
+
+    static ThreadHouse house(String text) {
+        ThreadHouse house = new ThreadHouse();
+        if (text(house, text) < 0) {
+            throw new IllegalStateException("the test's own text is wrong: " + text);
+        }
+        return house;
+    }
+
+    static long tellings(ThreadHouse house, int... row) {
+        int[] bytes = new int[2 * row.length];
+        for (int i = 0; i < row.length; i++) {
+            bytes[2 * i] = row[i] >> 8;
+            bytes[2 * i + 1] = row[i];
+        }
+        tape(house, bytes);
+        return house.tellings();
+    }
+
+    static int explain(ThreadHouse house, int... row) {
+        tape(house, row);
+        return house.explain();
+    }
+
+    static boolean shape(ThreadHouse house, int k, int... numbers) {
+        tape(house, numbers);
+        return house.shape(k);
+    }
+
+    static int hour(ThreadHouse house, int... row) {
+        tape(house, row);
+        return house.hour();
+    }
+
+    static boolean mend(ThreadHouse house, int h, int... row) {
+        tape(house, row);
+        return house.mend(h);
+    }
+
+    static int lined(ThreadHouse house, int n, int gap, int... rows) {
+        tape(house, rows);
+        return house.lined(n, gap);
+    }
+
+    static int gauges(ThreadHouse house, int... stretches) {
+        tape(house, stretches);
+        return house.gauges();
+    }
+}
