@@ -808,11 +808,12 @@ public final class ThreadHouse {
         }
 
         private boolean readCond(int within) {
-            for (int alls = 0; alls < MOST_ONES; alls++) {
+            // The round too many still looks at its TOKEN: one that can't come is the lesser FAULT.
+            for (int alls = 0; alls <= MOST_ONES; alls++) {
                 if (!readOne(within)) {
                     return false;
                 }
-                for (int more = 0; more < MOST_ONES && kind == Token.AND; more++) {
+                for (int more = 0; more <= MOST_ONES && kind == Token.AND; more++) {
                     advance();
                     if (!readOne(within)) {
                         return false;

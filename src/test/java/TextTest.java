@@ -1,0 +1,279 @@
+import java.util.Random;
+
+/** Promises 5 to 7: texts with their faults, against told answers and a second reader. */
+public final class TextTest {
+    public static void main(String[] args) {
+        faults();
+        ends();
+        counts();
+        tooLong();
+        feetTold();
+        staysBehindFault();
+        withHours();
+        againstSecondReader();
+        Check.finish();
+    }
+
+    private static void fails(String text, int place, int kind) {
+        ThreadHouse house = new ThreadHouse();
+        Check.same("text of " + text, Check.text(house, text), -1 - place);
+        Check.same("fault of " + text, house.fault(), kind);
+    }
+
+    private static void holds(String text, int lines) {
+        ThreadHouse house = new ThreadHouse();
+        Check.same("text of " + text, Check.text(house, text), lines);
+        Check.same("fault of " + text, house.fault(), 0);
+    }
+
+    private static void faults() {
+        fails("pull5;", 0, 1);
+        fails("5pull;", 0, 1);
+        fails("pull\t5;", 4, 1);
+        fails("pull 5\r;", 6, 1);
+        fails("pull 5" + (char) 160 + ";", 6, 1);
+        fails("pull 5 " + (char) 0, 7, 1);
+        fails("abcdefgh 1;", 0, 1);
+        fails("fixedfixed 1 to 2;", 0, 1);
+        fails("alarm peak ! 3 for 1;", 11, 1);
+        fails("alarm peak >= 3 for 1;", 12, 1);
+        fails("alarm peak > 10000 for 1;", 13, 1);
+        fails("alarm peak > 3 and for 1;", 19, 1);
+        fails("alarm peak > 3 or ) for 1;", 18, 1);
+        fails("alarm () for 1;", 7, 1);
+        fails("alarm ((peak > 3) for 1;", 18, 1);
+        fails("alarm peak > 3) for 1;", 14, 1);
+        fails("alarm not for 1;", 10, 1);
+        fails("alarm for 1;", 6, 1);
+        fails("alarm peak > 3 for 10;", 19, 2);
+        fails("alarm peak > peak for 1;", 13, 1);
+        fails("alarm at at > 3 for 1;", 9, 1);
+        fails("noise 10;", 6, 2);
+        fails("heat 0;", 5, 2);
+        fails("heat 10;", 5, 2);
+        fails("heat ;", 5, 1);
+        fails("heat 1;heat 2;", 7, 3);
+        fails("heat 1;heat", 7, 3);
+        fails("feet 4;fixed 4 to 4;", 13, 2);
+        fails("feet 4;fixed 0 to 4;", 18, 2);
+        fails("fixed 0 to 24;", 11, 2);
+        fails("holds 100 from 0 to 1;", 6, 2);
+        fails("holds 1 from 24 to 24;", 13, 2);
+        fails("holds 1 from 3 to 2;", 18, 2);
+        fails("holds 1 from 3 to 24;", 18, 2);
+        fails("holds 1 to 3 from 4;", 8, 1);
+        fails("feet 4;alarm at 4 = 0 for 1;", 16, 2);
+        fails("feet 0004;feet 5;", 10, 1);
+        fails("feet 4 5;", 7, 1);
+        fails("feet 3", 5, 2);
+        fails(";", 0, 1);
+        fails("5;", 0, 1);
+        holds("", 0);
+        holds(" \n ", 0);
+        holds("feet 48;", 0);
+        holds("feet\n0048 ;heat\n 9;pull 9;noise 0;", 3);
+        holds("alarm(peak<0 or sum>9999)and not slips=0 or at 23>5 for 9;", 1);
+        fails("alarm peak<0or sum>9999 for 1;", 11, 1);
+        fails("alarm peak<0 for1;", 13, 1);
+        holds("fixed 0 to 23;holds 99 from 23 to 23;", 2);
+    }
+
+    private static void ends() {
+        fails("pull 5", 6, 1);
+        fails("pull 5 \n ", 9, 1);
+        fails("pull", 4, 1);
+        fails("alarm ", 6, 1);
+        fails("alarm peak", 10, 1);
+        fails("alarm (peak > 3 ", 16, 1);
+        fails("holds 3 from 1 to", 17, 1);
+        fails("feet 10", 7, 1);
+    }
+
+    private static void counts() {
+        String lines = "heat 1;" + "fixed 1 to 2;".repeat(23);
+        holds(lines, 24);
+        fails(lines + "fixed 1 to 2;", 306, 3);
+        fails(lines + "feet", 306, 1);
+        fails(lines + "heat", 306, 3);
+        fails(lines + "alarm", 306, 3);
+        holds("feet 9;" + "alarm sum=0 for 1;".repeat(6), 6);
+        fails("alarm sum=0 for 1;".repeat(6) + "alarm", 6 * 18, 3);
+        fails("alarm sum=0 for 1;".repeat(6) + "alarms", 6 * 18, 1);
+        String nine = "not ".repeat(9);
+        holds("alarm " + nine + "sum=0 for 1;", 1);
+        fails("alarm " + nine + "not sum=0 for 1;", 6 + 40, 4);
+        fails("alarm " + nine + "not for 1;", 6 + 40, 1);
+        holds("alarm " + "(".repeat(9) + "sum=0" + ")".repeat(9) + "for 1;", 1);
+        fails("alarm " + "(".repeat(10) + "sum=0" + ")".repeat(10) + "for 1;", 16, 4);
+        fails("alarm sum=0 and not (" + "(".repeat(8) + "sum=0", 29, 4);
+        String twenty = "alarm " + "sum<1 or ".repeat(19) + "sum<1 for 1;";
+        holds("alarm " + "sum<1 or ".repeat(39) + "sum<1 for 1;", 1);
+        fails("alarm " + "sum<1 or ".repeat(40) + "sum<1 for 1;", 6 + 40 * 9, 4);
+        fails("alarm " + "sum<1 or ".repeat(40) + "for 1;", 6 + 40 * 9, 1);
+        fails("alarm " + "(sum<1)or ".repeat(20) + "(sum<1)for 1;", 6 + 200, 4);
+        fails("alarm " + "sum<1or ".repeat(2) + "sum<1 for 1;", 10, 1);
+        fails("alarm (sum<1)" + "and(sum<1)".repeat(20), 6 + 7 + 19 * 10 + 3, 4);
+        fails("alarm (sum<1)" + "and(sum<1)".repeat(19) + "and )", 6 + 7 + 19 * 10 + 4, 1);
+        fails("alarm " + "at 1<1 and ".repeat(35) + "at 1<1 for 1;", 400, 1);
+        holds(twenty + "alarm " + "not sum<1 or ".repeat(9) + "(sum<1)for 1;", 2);
+        fails(twenty + "alarm " + "not sum<1 or ".repeat(10) + "sum<1 for 1;", 189 + 6 + 130, 4);
+        fails(twenty + "alarm not(" + "not sum<1 or ".repeat(9) + "sum<1)for 1;", 189 + 10 + 117, 4);
+    }
+
+    private static void tooLong() {
+        String blank = " ".repeat(440);
+        holds("pull 5;" + blank.substring(0, 393), 1);
+        fails("pull 5;" + blank.substring(0, 394), 400, 1);
+        fails(blank, 400, 1);
+        fails(blank.substring(0, 397) + "pull 5;", 400, 1);
+        fails(blank.substring(0, 397) + "pullpullp;", 397, 1);
+        fails(blank.substring(0, 397) + "pall 5;", 397, 1);
+        fails(blank.substring(0, 399) + "pall 5;", 399, 1);
+        fails(blank.substring(0, 400) + "pall 5;", 400, 1);
+        fails(blank.substring(0, 394) + "pull 12345;", 399, 1);
+        fails(blank.substring(0, 394) + "pull 12;", 399, 2);
+        fails(blank.substring(0, 395) + "pull 12;", 400, 1);
+        fails(blank.substring(0, 394) + "pull 5", 400, 1);
+        fails(blank.substring(0, 394) + "pull 5;", 400, 1);
+        fails(blank.substring(0, 393) + "pull 5", 399, 1);
+        fails("x" + blank.substring(0, 430), 0, 1);
+        fails("pull 5;pull 5;" + blank.substring(0, 420), 7, 3);
+        fails("a".repeat(440), 0, 1);
+        holds(blank.substring(0, 393) + "pull 5;", 1);
+    }
+
+    private static void feetTold() {
+        ThreadHouse house = Check.house("feet 12;fixed 2 to 4;fixed 4 to 6;holds 3 from 0 to 9;holds 7 from 5 to 11;");
+        int[] fixed = {0, 0, 1, 1, 1, 1, 1, 0, 0, 0, 0, 0};
+        int[] hold = {3, 3, 3, 3, 3, 7, 7, 7, 7, 7, 7, 7};
+        for (int i = 0; i < 12; i++) {
+            Check.same("fixed " + i, house.foot(i, 0), fixed[i]);
+            Check.same("hold " + i, house.foot(i, 1), hold[i]);
+        }
+        Check.same("foot(12, 0)", house.foot(12, 0), -1);
+        Check.same("foot(-1, 1)", house.foot(-1, 1), -1);
+        Check.same("foot(0, 2)", house.foot(0, 2), -1);
+        Check.same("foot(0, -1)", house.foot(0, -1), -1);
+        Check.same("feet", house.count(1), 12);
+        Check.text(house, "feet 20;");
+        for (int i = 0; i < 20; i++) {
+            Check.same("new text, fixed " + i, house.foot(i, 0), 0);
+            Check.same("new text, hold " + i, house.foot(i, 1), 10);
+        }
+    }
+
+    private static void staysBehindFault() {
+        ThreadHouse house = Check.house("feet 5;fixed 1 to 2;holds 3 from 0 to 4;noise 1;alarm sum=0 for 1;");
+        Check.same("fault", Check.text(house, "feet 9;fixed 0 to 8;noise 2;alarm sum=0 for 1;alarm x"), -1 - 52);
+        Check.same("kind", house.fault(), 1);
+        Check.same("feet stay", house.count(1), 5);
+        Check.same("alarms stay", house.count(3), 1);
+        Check.same("fixed stays", house.foot(0, 0), 0);
+        Check.same("fixed stays", house.foot(1, 0), 1);
+        Check.same("hold stays", house.foot(4, 1), 3);
+        Check.same("noise stays", house.falseShare(1, 0, 1), 3);
+        Check.same("a good one", Check.text(house, ""), 0);
+        Check.same("kind", house.fault(), 0);
+        Check.same("feet", house.count(1), 24);
+        Check.same("alarms", house.count(3), 0);
+        Check.same("noise", house.falseShare(1, -1, 1), 1);
+    }
+
+    private static void withHours() {
+        ThreadHouse house = Check.house("feet 4;");
+        Check.text(house, "pull 0;");
+        Check.same("kind", house.fault(), 2);
+        Check.same("hour", Check.hour(house, 0, 0, 0, 0, 0, 0, 0, 0), 0);
+        Check.same("text", Check.text(house, "feet 5;"), -1000);
+        Check.same("kind of the one ahead", house.fault(), 2);
+        Check.same("text", Check.text(house, "feet 5"), -1000);
+        Check.same("feet", house.count(1), 4);
+        Check.same("tape", house.count(5), 0);
+    }
+
+    private static final String[] PIECES = {
+        "feet ", "fixed ", "to ", "holds ", "from ", "pull ", "heat ", "noise ", "alarm ", "for ",
+        "or ", "and ", "not ", "peak ", "sum ", "slips ", "hour ", "at ", ";", "(", ")", "<", "=", ">",
+        "1 ", "2 ", "0 ", "9", "10 ", "23", "24 ", "48 ", "99 ", "100 ", "12345 ", " ", "\n", "a", "A", "1x "};
+
+    private static void againstSecondReader() {
+        Random random = new Random(7);
+        ThreadHouse house = new ThreadHouse();
+        for (int round = 0; round < 60000; round++) {
+            String text = someText(random);
+            if (text.length() > 440) {
+                text = text.substring(0, 440);
+            }
+            SecondReader second = new SecondReader(text);
+            Check.same("text of " + text, Check.text(house, text), second.answer());
+            Check.same("fault of " + text, house.fault(), second.kind());
+        }
+    }
+
+    /** Mostly good texts with a piece changed here or there, so that the reading goes far. */
+    private static String someText(Random random) {
+        StringBuilder text = new StringBuilder();
+        if (random.nextBoolean()) {
+            text.append("feet ").append(4 + random.nextInt(46)).append(';');
+        }
+        int lines = random.nextInt(random.nextInt(8) == 0 ? 30 : 6);
+        for (int line = 0; line < lines; line++) {
+            line(text, random);
+        }
+        for (int change = random.nextInt(3); change > 0 && text.length() > 0; change--) {
+            int at = random.nextInt(text.length());
+            String piece = PIECES[random.nextInt(PIECES.length)];
+            text.replace(at, Math.min(text.length(), at + random.nextInt(4)), piece);
+        }
+        return text.toString();
+    }
+
+    private static void line(StringBuilder text, Random random) {
+        int a = random.nextInt(12);
+        switch (random.nextInt(9)) {
+            case 0:
+                text.append("pull ").append(random.nextInt(11)).append(";");
+                break;
+            case 1:
+                text.append("heat\n").append(1 + random.nextInt(9)).append(" ;");
+                break;
+            case 2:
+                text.append("noise ").append(random.nextInt(10)).append(";\n");
+                break;
+            case 3:
+            case 4:
+                text.append("fixed ").append(a).append(" to ").append(a + random.nextInt(14)).append(';');
+                break;
+            case 5:
+                text.append("holds ").append(1 + random.nextInt(100)).append(" from ").append(a)
+                        .append(" to ").append(a + random.nextInt(4)).append(';');
+                break;
+            default:
+                text.append("alarm ");
+                cond(text, random, 1);
+                text.append(" for ").append(1 + random.nextInt(9)).append(';');
+                break;
+        }
+    }
+
+    private static void cond(StringBuilder text, Random random, int depth) {
+        int ones = random.nextInt(6) == 0 ? 6 : 1 + random.nextInt(2);
+        for (int one = 0; one < ones; one++) {
+            text.append(one == 0 ? "" : random.nextBoolean() ? " or " : " and ");
+            int kind = random.nextInt(depth > 11 ? 2 : 5);
+            if (kind == 0) {
+                text.append("at ").append(random.nextInt(6)).append("=").append(random.nextInt(20000));
+            } else if (kind == 1 || kind == 2) {
+                text.append(new String[] {"peak", "sum", "slips", "hour"}[random.nextInt(4)]);
+                text.append("<=>".charAt(random.nextInt(3))).append(random.nextInt(3));
+            } else if (kind == 3) {
+                text.append("not ");
+                cond(text, random, depth + 1);
+            } else {
+                text.append("(");
+                cond(text, random, depth + 1);
+                text.append(")");
+            }
+        }
+    }
+}
