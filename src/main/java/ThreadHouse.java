@@ -28,7 +28,6 @@ public final class ThreadHouse {
     private long[] ways = new long[2 * MOST_NOISES * MOST_NOISE + 1];
     private long[] waysOfOneMore = new long[2 * MOST_NOISES * MOST_NOISE + 1];
     private int today = 0;
-    private int faultKind = 0;
 
     public ThreadHouse() {
     }
@@ -65,7 +64,6 @@ public final class ThreadHouse {
         int answer = THERE_ARE_HOURS;
         if (body.hours == 0) {
             boolean whole = reader.reads(tape);
-            faultKind = reader.faultKind;
             if (whole) {
                 Text old = told;
                 told = reader.text;
@@ -78,7 +76,7 @@ public final class ThreadHouse {
     }
 
     public int fault() {
-        return faultKind;
+        return reader.faultKind;
     }
 
     public int foot(int i, int what) {
