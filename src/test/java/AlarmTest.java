@@ -8,6 +8,7 @@ public final class AlarmTest {
         hoursOnEnd();
         asOfDays();
         walks();
+        longestWalk();
         wrongWalks();
         for (int seed = 0; seed < 200; seed++) {
             againstPlainHouse(new Random(seed));
@@ -42,6 +43,11 @@ public final class AlarmTest {
         Check.same("hour", alarm("hour = 1", 1), 1);
         Check.same("hour", alarm("hour < 1", 1), 0);
         Check.same("any number", alarm("sum < 9999", 1), 1);
+        ThreadHouse still = Check.house("feet 4;alarm peak=0 for 1;alarm sum=0 for 1;alarm at 2=0 and slips=0 for 1;");
+        Check.hour(still, new int[8]);
+        for (int k = 0; k < 3; k++) {
+            Check.same("nothing changes", still.alarm(k, 0, 0), 1);
+        }
     }
 
     private static void binding() {
@@ -122,6 +128,32 @@ public final class AlarmTest {
         Check.hour(still, new int[8]);
         Check.same("all still", still.walk(0, 1, 3, 0), 0);
         Check.same("the lesser foot", still.walked(0) + still.walked(1), 0);
+    }
+
+    /** Forty HOURS over 48 feet: a load that goes two feet an HOUR, there and back. */
+    private static void longestWalk() {
+        ThreadHouse house = Check.house("feet 48;fixed 0 to 47;");
+        for (int h = 0; h < 40; h++) {
+            int[] row = new int[96];
+            for (int ahead = 0; ahead <= h; ahead++) {
+                row[load(ahead)] = row[load(ahead)] == 0 ? 9 : 0;
+            }
+            Check.hour(house, row);
+        }
+        Check.same("as far as it goes", house.walk(0, 39, 2, 0), 360);
+        for (int h = 0; h < 40; h++) {
+            Check.same("where it was", house.walked(h), load(h));
+        }
+        Check.same("no further", house.walked(40), -1);
+        Check.same("as far as may be", house.walk(0, 39, 47, 0), 360);
+        Check.same("at its end", house.walked(23), 46);
+        Check.same("too slow", house.walk(0, 39, 1, 0) < 360, true);
+        Check.same("a part of it", house.walk(22, 39, 2, 0), 162);
+        Check.same("its last foot", house.walked(17), load(39));
+    }
+
+    private static int load(int h) {
+        return h < 24 ? 2 * h : 94 - 2 * h;
     }
 
     private static void wrongWalks() {

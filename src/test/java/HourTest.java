@@ -9,6 +9,7 @@ public final class HourTest {
         asOf();
         holdsAndFixed();
         boxes();
+        boxesWithout();
         manySlips();
         wrongInputs();
         for (int seed = 0; seed < 150; seed++) {
@@ -150,6 +151,22 @@ public final class HourTest {
         Check.throwsNoSuch("foot -1", () -> house.read(-1, 0, 0, 0));
         Check.throwsNoSuch("hour 1", () -> house.read(0, 1, 0, 0));
         Check.throwsNoSuch("day -1", () -> house.read(0, 0, -1, 1));
+    }
+
+    /** pull and heat are 1 each where no text tells them, also behind texts that told others. */
+    private static void boxesWithout() {
+        ThreadHouse[] houses = {new ThreadHouse(), Check.house("noise 1;"), Check.house("pull 5;heat 7;")};
+        Check.text(houses[2], "");
+        Check.text(houses[2], "noise 2;");
+        for (ThreadHouse house : houses) {
+            int[] row = new int[48];
+            row[5] = 3;
+            row[29] = 10;
+            Check.hour(house, row);
+            Check.same("box 0", house.read(5, 0, 0, 0), 26);
+            Check.same("box 1", house.read(5, 0, 0, 1), 20);
+            Check.same("beside it", house.read(4, 0, 0, 0), 13);
+        }
     }
 
     /** Foot by foot 99 ahead of the turn and -99 behind it, or the other way round. */

@@ -33,6 +33,12 @@ public final class TextTest {
         fails("pull 5\r;", 6, 1);
         fails("pull 5" + (char) 160 + ";", 6, 1);
         fails("pull 5 " + (char) 0, 7, 1);
+        fails("pull 5a;", 5, 1);
+        fails("pull 5z;", 5, 1);
+        fails("pull 1" + (char) ('a' - 1) + ";", 6, 1);
+        fails("pull 1{;", 6, 1);
+        fails("pull 1/;", 6, 1);
+        fails("pull 1:;", 6, 1);
         fails("abcdefgh 1;", 0, 1);
         fails("fixedfixed 1 to 2;", 0, 1);
         fails("alarm peak ! 3 for 1;", 11, 1);
@@ -139,6 +145,9 @@ public final class TextTest {
         fails("x" + blank.substring(0, 430), 0, 1);
         fails("pull 5;pull 5;" + blank.substring(0, 420), 7, 3);
         fails("a".repeat(440), 0, 1);
+        fails(";".repeat(400), 0, 1);
+        fails("(".repeat(440), 0, 1);
+        fails("alarm" + "(".repeat(435), 15, 4);
         holds(blank.substring(0, 393) + "pull 5;", 1);
     }
 
@@ -159,6 +168,15 @@ public final class TextTest {
         for (int i = 0; i < 20; i++) {
             Check.same("new text, fixed " + i, house.foot(i, 0), 0);
             Check.same("new text, hold " + i, house.foot(i, 1), 10);
+        }
+        Check.text(house, "feet 48;fixed 0 to 47;holds 9 from 0 to 47;");
+        Check.same("last foot", house.foot(47, 0), 1);
+        Check.same("last foot", house.foot(47, 1), 9);
+        Check.text(house, "");
+        Check.text(house, "feet 48;");
+        for (int i = 0; i < 48; i++) {
+            Check.same("third text, fixed " + i, house.foot(i, 0), 0);
+            Check.same("third text, hold " + i, house.foot(i, 1), 10);
         }
     }
 
