@@ -420,13 +420,13 @@ public final class ThreadHouse {
         /** Each of 40 ONES gives one step at most, and joining them takes fewer. */
         private static final int MOST_STEPS = 80;
 
-        private int feet = FEET_WITHOUT;
-        private int pull = 1;
-        private int heat = 1;
-        private int noise = 0;
-        private int lines = 0;
-        private int alarms = 0;
-        private int steps = 0;
+        private int feet;
+        private int pull;
+        private int heat;
+        private int noise;
+        private int lines;
+        private int alarms;
+        private int steps;
         private final boolean[] fixed = new boolean[MOST_FEET];
         private final int[] hold = new int[MOST_FEET];
         private final int[] alarmHours = new int[MOST_ALARMS];
@@ -437,10 +437,10 @@ public final class ThreadHouse {
         private final int[] stepNumber = new int[MOST_STEPS];
 
         Text() {
-            Arrays.fill(hold, HOLD_WITHOUT);
+            empty();
         }
 
-        void empty() {
+        private void empty() {
             feet = FEET_WITHOUT;
             pull = 1;
             heat = 1;
@@ -561,6 +561,10 @@ public final class ThreadHouse {
         private static final Token[] TOKENS = Token.values();
         private static final int MOST_BYTES = 400;
         private static final int MOST_DIGITS = 4;
+        private static final int LEAST_FEET = 4;
+        private static final int MOST_HOLD = 99;
+        private static final int MOST_SETTING = 9;
+        private static final int MOST_ALARM_HOURS = 9;
         private static final int MOST_LINES = 24;
         private static final int MOST_ONES = 40;
         private static final int MOST_WITHIN = 10;
@@ -716,7 +720,7 @@ public final class ThreadHouse {
 
         private boolean readFeet() {
             advance();
-            if (!takeNumber(4, MOST_FEET)) {
+            if (!takeNumber(LEAST_FEET, MOST_FEET)) {
                 return false;
             }
             text.feet = taken;
@@ -742,7 +746,7 @@ public final class ThreadHouse {
             if (word != Token.ALARM) {
                 return readSetting(word);
             }
-            if (!readCond(1) || !take(Token.FOR) || !takeNumber(1, 9)) {
+            if (!readCond(1) || !take(Token.FOR) || !takeNumber(1, MOST_ALARM_HOURS)) {
                 return false;
             }
             text.addAlarm(taken);
@@ -773,7 +777,7 @@ public final class ThreadHouse {
         }
 
         private boolean readHolds() {
-            if (!takeNumber(1, 99)) {
+            if (!takeNumber(1, MOST_HOLD)) {
                 return false;
             }
             int much = taken;
@@ -789,7 +793,7 @@ public final class ThreadHouse {
         }
 
         private boolean readSetting(Token word) {
-            if (!takeNumber(word == Token.NOISE ? 0 : 1, 9)) {
+            if (!takeNumber(word == Token.NOISE ? 0 : 1, MOST_SETTING)) {
                 return false;
             }
             if (word == Token.PULL) {
