@@ -8,8 +8,14 @@ final class Check {
 
     private static int wrong = 0;
     private static int asked = 0;
+    private static String about = "";
 
     private Check() {
+    }
+
+    /** The document's words that the answers from here on are about: a wrong one tells them. */
+    static void sentence(String words) {
+        about = "\"" + words + "\": ";
     }
 
     static void same(String what, long got, long due) {
@@ -17,7 +23,7 @@ final class Check {
         if (got != due) {
             wrong++;
             if (wrong <= 50) {
-                System.out.println(what + " answered " + got + ", due is " + due);
+                System.out.println(about + what + " answered " + got + ", due is " + due);
             }
         }
     }
@@ -47,6 +53,11 @@ final class Check {
     /** Makes the tape of the house these bytes alone; at most 440. */
     static void tape(ThreadHouse house, byte[] bytes) {
         house.end(0);
+        append(house, 0, bytes);
+    }
+
+    /** Puts bytes behind a tape that has so many. */
+    private static void append(ThreadHouse house, int has, byte[] bytes) {
         for (int from = 0; from < bytes.length; from += 20) {
             int[] numbers = new int[5];
             for (int i = 0; i < 20; i++) {
@@ -55,15 +66,27 @@ final class Check {
             }
             house.feed(numbers[0], numbers[1], numbers[2], numbers[3], numbers[4]);
         }
-        house.end(bytes.length);
+        house.end(has + bytes.length);
+    }
+
+    /** Looks whether the tape has these bytes alone, 48 at most; it is used up. */
+    static void tapeHas(String what, ThreadHouse house, int... numbers) {
+        same(what + ", bytes", house.count(5), numbers.length);
+        append(house, numbers.length, bytes(numbers));
+        // By so dear a gap only like rows of like length line up for nothing.
+        same(what + ", lined up with what is due", house.lined(numbers.length, 255), 0);
     }
 
     static void tape(ThreadHouse house, int... numbers) {
+        tape(house, bytes(numbers));
+    }
+
+    private static byte[] bytes(int... numbers) {
         byte[] bytes = new byte[numbers.length];
         for (int i = 0; i < numbers.length; i++) {
             bytes[i] = (byte) numbers[i];
         }
-        tape(house, bytes);
+        return bytes;
     }
 
     static int text(ThreadHouse house, String text) {
