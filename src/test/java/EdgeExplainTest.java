@@ -147,6 +147,16 @@ public final class EdgeExplainTest {
         explains(wide, row, 5385);
         row[39] = 0;
         Check.same("not whole", Check.explain(wide, row), -2);
+        // Behind a row of more FEET the last foot of fewer ones is the last one all the same.
+        for (int feet = 47; feet >= 4; feet--) {
+            int[] fewer = new int[feet];
+            fewer[feet - 1] = 3;
+            ThreadHouse again = Check.house("feet 48;");
+            Check.shape(again, 0, 3);
+            Check.same("not explained", Check.explain(again, row), -2);
+            Check.text(again, "feet " + feet + ";");
+            explains(again, fewer, 10 * (feet - 1) + 1);
+        }
     }
 
     private static void times() {

@@ -110,6 +110,18 @@ public final class EdgeTellingsTest {
             int[] row = {number, number, number, number};
             Check.same("all " + number, Check.tellings(house, row), 0);
         }
+        // Each number counts with both its bytes: so far off it comes of nothing.
+        int[] off = {64, 128, 256, 384, 512, 1024, 16384, 32640};
+        for (int foot = 0; foot < 4; foot++) {
+            for (int much : off) {
+                for (int sign = -1; sign <= 1; sign += 2) {
+                    int[] row = smeared(-15, 15, -15, 15);
+                    row[foot] += sign * much;
+                    Check.same("off by " + sign * much, Check.tellings(house, row), 0);
+                }
+            }
+        }
+        Check.same("not off", Check.tellings(house, smeared(-15, 15, -15, 15)), 1);
     }
 
     private static void tooMany() {

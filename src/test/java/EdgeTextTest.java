@@ -364,7 +364,23 @@ public final class EdgeTextTest {
         fails(six + " or sum", six.length() + 4, 4);
         fails(six + " for 1;pull 0;", six.length() + 12, 2);
         ThreadHouse again = Check.house(plain + "for 1;");
-        Check.same("counted anew in the next text", Check.text(again, turned + "for 1;"), 1);
+        for (int more = 0; more < 4; more++) {
+            Check.same("counted anew in the next text", Check.text(again, turned + "for 1;"), 1);
+            Check.same("and behind a FAULT", Check.text(again, plain + "for 0;"), -1 - plain.length() - 4);
+            Check.same("and in the next one", Check.text(again, plain + "for 1;"), 1);
+        }
+        Check.same("a last text", Check.text(again, "alarm hour=0 or sum>0 for 1;alarm not hour=0 for 1;"), 2);
+        Check.hour(again, new int[48]);
+        Check.same("its first ALARM", again.alarm(0, 0, 0), 1);
+        Check.same("its second ALARM", again.alarm(1, 0, 0), 0);
+        ThreadHouse most = Check.house("feet 4;alarm " + "sum>9 or ".repeat(39) + "hour=0 for 1;");
+        Check.hour(most, new int[8]);
+        Check.same("the 40th ONE counts", most.alarm(0, 0, 0), 1);
+        ThreadHouse all = Check.house("feet 4;alarm " + "sum=0 and ".repeat(36) + "hour>0 for 1;");
+        Check.hour(all, new int[8]);
+        Check.hour(all, new int[8]);
+        Check.same("the last ONE counts", all.alarm(0, 0, 0), 0);
+        Check.same("the last ONE counts", all.alarm(0, 1, 0), 1);
     }
 
     private static void within() {
