@@ -7,6 +7,8 @@ import java.util.Random;
  */
 public final class HostileTest {
     private static final long THROWN = Long.MIN_VALUE;
+    /** count(1), end(0), five feeds for 96 bytes, end and the call itself. */
+    private static final int MOST_CALLS_A_ROUND = 9;
     private static final int[] EDGES = {Integer.MIN_VALUE, Integer.MIN_VALUE + 1, -1000, -129, -100, -2, -1, 0, 1, 2,
         3, 4, 5, 8, 9, 12, 13, 20, 39, 40, 47, 48, 49, 60, 99, 255, 256, 439, 440, 441, 999, 1000,
         Integer.MAX_VALUE - 1, Integer.MAX_VALUE};
@@ -14,29 +16,31 @@ public final class HostileTest {
         "feet 10;holds 1 from 0 to 9;fixed 3 to 3;alarm hour>0 for 9;", "feet 48;noise 9;", "", "feet 5;pull 0;"};
 
     public static void main(String[] args) {
-        for (int seed = 0; seed < 400; seed++) {
+        for (int seed = 0; seed < 1500; seed++) {
             run(seed);
         }
         Check.finish();
     }
 
+    /** The twin does not get the calls that throw: if they changed something, it would answer otherwise. */
     private static void run(int seed) {
         Random random = new Random(seed);
         ThreadHouse house = new ThreadHouse();
         ThreadHouse twin = new ThreadHouse();
-        for (int call = 0; call < 500; call++) {
+        int calls = 0;
+        // Beyond 512 calls the document promises nothing.
+        while (calls + MOST_CALLS_A_ROUND <= 512) {
             int which = random.nextInt(34);
             int[] a = new int[5];
             for (int i = 0; i < 5; i++) {
                 a[i] = number(random, which);
             }
-            String before = state(house);
+            calls += which < 26 ? 2 : MOST_CALLS_A_ROUND;
             long answer = answer(house, which, a);
-            Check.same("the twin's answer", answer(twin, which, a), answer);
             boolean mayThrow = which == 8 || which == 10 || which == 14 || which == 22;
             Check.same("call " + which + " throws", answer == THROWN && !mayThrow, false);
-            if (answer == THROWN) {
-                Check.same("changes nothing", state(house).equals(before), true);
+            if (answer != THROWN) {
+                Check.same("the twin's answer to call " + which, answer(twin, which, a), answer);
             }
         }
     }
@@ -46,18 +50,6 @@ public final class HostileTest {
             return random.nextInt();
         }
         return random.nextInt(3) == 0 ? EDGES[random.nextInt(EDGES.length)] : random.nextInt(6);
-    }
-
-    private static String state(ThreadHouse house) {
-        StringBuilder state = new StringBuilder();
-        for (int what = 0; what < 6; what++) {
-            state.append(house.count(what)).append(' ');
-        }
-        for (int k = 0; k < 5; k++) {
-            state.append(house.event(k, 1)).append(' ').append(house.walked(k)).append(' ');
-            state.append(house.paired(k)).append(' ').append(house.gauge(k)).append(' ');
-        }
-        return state.append(house.fault()).toString();
     }
 
     private static long answer(ThreadHouse house, int which, int[] a) {

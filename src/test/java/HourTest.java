@@ -12,7 +12,7 @@ public final class HourTest {
         boxesWithout();
         manySlips();
         wrongInputs();
-        for (int seed = 0; seed < 150; seed++) {
+        for (int seed = 0; seed < 900; seed++) {
             againstPlainHouse(new Random(seed));
         }
         Check.finish();
@@ -236,7 +236,8 @@ public final class HourTest {
         ThreadHouse house = Check.house(text.toString());
         int hours = 0;
         int day = 0;
-        for (int step = 0; step < 14; step++) {
+        int steps = 1 + random.nextInt(14);
+        for (int step = 0; step < steps; step++) {
             int days = random.nextInt(3);
             house.next(days);
             day += days;
@@ -255,12 +256,16 @@ public final class HourTest {
                 Check.same("mend", Check.mend(house, h, row), true);
                 plain.tell(h, day, row);
             }
-            compare(house, plain, random, new int[] {feet, pull, heat, hours, day});
+            // What was asked on one day must not change what is answered on a later one.
+            if (step % 4 == 0) {
+                compare(house, plain, random, new int[] {feet, pull, heat, hours, day}, 1);
+            }
         }
+        compare(house, plain, random, new int[] {feet, pull, heat, hours, day}, 10);
     }
 
-    private static void compare(ThreadHouse house, PlainHouse plain, Random random, int[] told) {
-        for (int ask = 0; ask < 6; ask++) {
+    private static void compare(ThreadHouse house, PlainHouse plain, Random random, int[] told, int asks) {
+        for (int ask = 0; ask < asks; ask++) {
             int h = random.nextInt(told[3]);
             int day = random.nextInt(told[4] + 2);
             if (plain.row(h, day) == null) {

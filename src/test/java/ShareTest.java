@@ -4,9 +4,9 @@ import java.math.BigInteger;
 public final class ShareTest {
     public static void main(String[] args) {
         for (int noise = 0; noise <= 9; noise++) {
-            ThreadHouse house = Check.house("noise " + noise + ";");
             BigInteger[] ways = {BigInteger.ONE};
             for (int k = 1; k <= 12; k++) {
+                ThreadHouse house = Check.house("noise " + noise + ";");
                 ways = oneMore(ways, noise);
                 for (int above = -k * noise - 2; above <= k * noise + 1; above++) {
                     compare(house, ways, k, above);
