@@ -617,7 +617,8 @@ public final class ThreadHouse {
             int limit = Math.min(tape.length, MOST_BYTES);
             tokens = 0;
             int from = 0;
-            while (from < limit) {
+            // Each round goes on by a byte at least.
+            for (int round = 0; round < MOST_BYTES && from < limit; round++) {
                 int behind = behindRun(tape, from);
                 int sign = tape.unsigned(from);
                 if (sign != ' ' && sign != '\n') {

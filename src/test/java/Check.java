@@ -98,6 +98,19 @@ final class Check {
         return house.text();
     }
 
+    /** A FAULT of that kind at that place, told to a new house. */
+    static void textFails(String text, int place, int kind) {
+        ThreadHouse house = new ThreadHouse();
+        same("text() of " + text, text(house, text), -1 - place);
+        same("fault() of " + text, house.fault(), kind);
+    }
+
+    static void textHolds(String text, int lines) {
+        ThreadHouse house = new ThreadHouse();
+        same("text() of " + text, text(house, text), lines);
+        same("fault() of " + text, house.fault(), 0);
+    }
+
     static ThreadHouse house(String text) {
         ThreadHouse house = new ThreadHouse();
         if (text(house, text) < 0) {

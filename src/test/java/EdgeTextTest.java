@@ -37,28 +37,16 @@ public final class EdgeTextTest {
         Check.finish();
     }
 
-    private static void fails(String text, int place, int kind) {
-        ThreadHouse house = new ThreadHouse();
-        Check.same("text() of " + text, Check.text(house, text), -1 - place);
-        Check.same("fault() of " + text, house.fault(), kind);
-    }
-
-    private static void holds(String text, int lines) {
-        ThreadHouse house = new ThreadHouse();
-        Check.same("text() of " + text, Check.text(house, text), lines);
-        Check.same("fault() of " + text, house.fault(), 0);
-    }
-
     /** The texts of least .. most hold, those beside them have fault 2 at the place. */
     private static void range(IntFunction<String> text, int least, int most, int place, int lines) {
         int[] beyond = {least - 1, most + 1, most + 10, 9999};
         for (int n : beyond) {
             if (n >= 0 && n <= 9999) {
-                fails(text.apply(n), place, 2);
+                Check.textFails(text.apply(n), place, 2);
             }
         }
         for (int n = least; n <= most; n++) {
-            holds(text.apply(n), lines);
+            Check.textHolds(text.apply(n), lines);
         }
     }
 
@@ -70,56 +58,56 @@ public final class EdgeTextTest {
             boolean letter = sign >= 'a' && sign <= 'z';
             boolean digit = sign >= '0' && sign <= '9';
             if (sign == 32 || sign == 10) {
-                holds(behindWord, 1);
-                holds(behindNumber, 1);
+                Check.textHolds(behindWord, 1);
+                Check.textHolds(behindNumber, 1);
             } else {
-                fails(behindWord, letter || digit ? 0 : 4, 1);
-                fails(behindNumber, letter || digit ? 5 : sign == ';' ? 7 : 6, digit ? 2 : 1);
+                Check.textFails(behindWord, letter || digit ? 0 : 4, 1);
+                Check.textFails(behindNumber, letter || digit ? 5 : sign == ';' ? 7 : 6, digit ? 2 : 1);
             }
         }
-        holds("feet 9;fixed 1 to 2;alarm(not(peak<1)and(at 3>2))or hour=0 for 1;", 2);
-        holds("\n feet \n9 ; fixed  1\nto\n2\n;alarm\n( not ( peak < 1 ) and\n( at 3 > 2 ) )or hour = 0 for 1 ; ", 2);
-        holds("", 0);
-        holds(" ", 0);
-        holds("\n", 0);
-        holds(BLANKS.substring(0, 400), 0);
+        Check.textHolds("feet 9;fixed 1 to 2;alarm(not(peak<1)and(at 3>2))or hour=0 for 1;", 2);
+        Check.textHolds("\n feet \n9 ; fixed  1\nto\n2\n;alarm\n( not ( peak < 1 ) and\n( at 3 > 2 ) )or hour = 0 for 1 ; ", 2);
+        Check.textHolds("", 0);
+        Check.textHolds(" ", 0);
+        Check.textHolds("\n", 0);
+        Check.textHolds(BLANKS.substring(0, 400), 0);
     }
 
     private static void words() {
         Check.sentence("WORDS: small letters, 1 to 8");
-        fails("p 5;", 0, 1);
-        fails("pullpull 5;", 0, 1);
-        fails("pullpullp 5;", 0, 1);
-        fails("Pull 5;", 0, 1);
-        fails("pulL 5;", 0, 1);
-        fails("pullL 5;", 4, 1);
-        fails("PULL 5;", 0, 1);
-        fails("pul 5;", 0, 1);
-        fails("pulls 5;", 0, 1);
-        fails("`ull 5;", 0, 1);
-        fails("pull`5;", 4, 1);
-        fails("pull{5;", 4, 1);
-        fails("zebra 5;", 0, 1);
+        Check.textFails("p 5;", 0, 1);
+        Check.textFails("pullpull 5;", 0, 1);
+        Check.textFails("pullpullp 5;", 0, 1);
+        Check.textFails("Pull 5;", 0, 1);
+        Check.textFails("pulL 5;", 0, 1);
+        Check.textFails("pullL 5;", 4, 1);
+        Check.textFails("PULL 5;", 0, 1);
+        Check.textFails("pul 5;", 0, 1);
+        Check.textFails("pulls 5;", 0, 1);
+        Check.textFails("`ull 5;", 0, 1);
+        Check.textFails("pull`5;", 4, 1);
+        Check.textFails("pull{5;", 4, 1);
+        Check.textFails("zebra 5;", 0, 1);
     }
 
     private static void numbers() {
         Check.sentence("NUMBERS: 1 to 4 digits");
         String[] taken = {"5", "05", "005", "0005"};
         for (String number : taken) {
-            holds("pull " + number + ";", 1);
+            Check.textHolds("pull " + number + ";", 1);
         }
-        fails("pull 00005;", 5, 1);
-        fails("pull 10000;", 5, 1);
-        fails("pull 0000000005;", 5, 1);
-        fails("pull ;", 5, 1);
-        fails("pull /;", 5, 1);
-        fails("pull :;", 5, 1);
-        fails("pull -1;", 5, 1);
-        fails("pull +1;", 5, 1);
-        fails("pull 0000;", 5, 2);
-        holds("alarm sum>0000 for 0001;", 1);
-        fails("alarm sum>00000 for 0001;", 10, 1);
-        fails("alarm sum>0000 for 00001;", 19, 1);
+        Check.textFails("pull 00005;", 5, 1);
+        Check.textFails("pull 10000;", 5, 1);
+        Check.textFails("pull 0000000005;", 5, 1);
+        Check.textFails("pull ;", 5, 1);
+        Check.textFails("pull /;", 5, 1);
+        Check.textFails("pull :;", 5, 1);
+        Check.textFails("pull -1;", 5, 1);
+        Check.textFails("pull +1;", 5, 1);
+        Check.textFails("pull 0000;", 5, 2);
+        Check.textHolds("alarm sum>0000 for 0001;", 1);
+        Check.textFails("alarm sum>00000 for 0001;", 10, 1);
+        Check.textFails("alarm sum>0000 for 00001;", 19, 1);
         for (int digit = 1; digit <= 9; digit++) {
             ThreadHouse house = new ThreadHouse();
             Check.same("a digit", Check.text(house, "holds " + digit + " from 0 to 0;"), 1);
@@ -131,21 +119,21 @@ public final class EdgeTextTest {
 
     private static void runs() {
         Check.sentence("(A WORD, NUMBER goes on as long as small letters and digits do; what is not as told is no TOKEN.)");
-        fails("pull5;", 0, 1);
-        fails("heat 1;pull5;", 7, 1);
-        fails("pull 5pull;", 5, 1);
-        fails("pull 5a;", 5, 1);
-        fails("pull a5;", 5, 1);
-        fails("pull 5;5pull 5;", 7, 1);
-        fails("fixed 1to 2;", 6, 1);
-        fails("fixed 1 to2;", 8, 1);
-        fails("alarm sum<1and sum<1 for 1;", 10, 1);
-        fails("alarm sum<1for 1;", 10, 1);
-        fails("alarm sum<1 for1;", 12, 1);
-        fails("alarm notsum<1 for 1;", 6, 1);
-        fails("alarm at1<1 for 1;", 6, 1);
-        holds("alarm at 1<1 for 1;", 1);
-        holds("alarm not(sum<1)for 1;", 1);
+        Check.textFails("pull5;", 0, 1);
+        Check.textFails("heat 1;pull5;", 7, 1);
+        Check.textFails("pull 5pull;", 5, 1);
+        Check.textFails("pull 5a;", 5, 1);
+        Check.textFails("pull a5;", 5, 1);
+        Check.textFails("pull 5;5pull 5;", 7, 1);
+        Check.textFails("fixed 1to 2;", 6, 1);
+        Check.textFails("fixed 1 to2;", 8, 1);
+        Check.textFails("alarm sum<1and sum<1 for 1;", 10, 1);
+        Check.textFails("alarm sum<1for 1;", 10, 1);
+        Check.textFails("alarm sum<1 for1;", 12, 1);
+        Check.textFails("alarm notsum<1 for 1;", 6, 1);
+        Check.textFails("alarm at1<1 for 1;", 6, 1);
+        Check.textHolds("alarm at 1<1 for 1;", 1);
+        Check.textHolds("alarm not(sum<1)for 1;", 1);
     }
 
     private static void feet() {
@@ -162,36 +150,36 @@ public final class EdgeTextTest {
         ThreadHouse again = Check.house("feet 9;");
         Check.same("without it again", Check.text(again, "pull 1;"), 1);
         Check.same("FEET", again.count(1), 24);
-        fails("feet 0;", 5, 2);
-        fails("feet 3", 5, 2);
-        fails("feet 4", 6, 1);
-        fails("feet;", 4, 1);
-        fails("feet feet 4;", 5, 1);
-        fails("feet 4;feet 4;", 7, 1);
-        fails("pull 1;feet 4;", 7, 1);
-        fails("feet 4;;", 7, 1);
+        Check.textFails("feet 0;", 5, 2);
+        Check.textFails("feet 3", 5, 2);
+        Check.textFails("feet 4", 6, 1);
+        Check.textFails("feet;", 4, 1);
+        Check.textFails("feet feet 4;", 5, 1);
+        Check.textFails("feet 4;feet 4;", 7, 1);
+        Check.textFails("pull 1;feet 4;", 7, 1);
+        Check.textFails("feet 4;;", 7, 1);
     }
 
     private static void lines() {
         Check.sentence("{ LINE }, 24 LINES at most.");
         for (int n = 0; n <= 24; n++) {
-            holds("fixed 1 to 2;".repeat(n), n);
+            Check.textHolds("fixed 1 to 2;".repeat(n), n);
         }
-        holds("feet 4;" + "fixed 1 to 2;".repeat(24), 24);
+        Check.textHolds("feet 4;" + "fixed 1 to 2;".repeat(24), 24);
         Check.sentence("a 25th LINE, a seventh alarm (at its WORD)");
         String many = "fixed 1 to 2;".repeat(24);
         String[] words = {"fixed 1 to 2;", "fixed", "fixed 99", "holds 1 from 0 to 0;", "holds", "pull 1;", "pull", "heat 0;", "noise 10;", "alarm"};
         for (String word : words) {
-            fails(many + word, 312, 3);
-            fails(many + " \n" + word, 314, 3);
-            fails("feet 4;" + many + word, 319, 3);
+            Check.textFails(many + word, 312, 3);
+            Check.textFails(many + " \n" + word, 314, 3);
+            Check.textFails("feet 4;" + many + word, 319, 3);
         }
-        fails(many + ";", 312, 1);
-        fails(many + "feet 4;", 312, 1);
-        fails(many + "to", 312, 1);
-        holds(many + " \n", 24);
-        holds("pull 1;heat 1;noise 1;" + "fixed 1 to 2;".repeat(15) + "alarm sum<1 for 1;".repeat(6), 24);
-        fails("pull 1;heat 1;noise 1;" + "fixed 1 to 2;".repeat(15) + "alarm sum<1 for 1;".repeat(6) + "fixed", 325, 3);
+        Check.textFails(many + ";", 312, 1);
+        Check.textFails(many + "feet 4;", 312, 1);
+        Check.textFails(many + "to", 312, 1);
+        Check.textHolds(many + " \n", 24);
+        Check.textHolds("pull 1;heat 1;noise 1;" + "fixed 1 to 2;".repeat(15) + "alarm sum<1 for 1;".repeat(6), 24);
+        Check.textFails("pull 1;heat 1;noise 1;" + "fixed 1 to 2;".repeat(15) + "alarm sum<1 for 1;".repeat(6) + "fixed", 325, 3);
     }
 
     private static void stretches() {
@@ -212,9 +200,9 @@ public final class EdgeTextTest {
     private static void stretch(String begin, int feet, int first, int last) {
         String text = begin + first + " to " + last + ";";
         if (first >= feet) {
-            fails(text, begin.length(), 2);
+            Check.textFails(text, begin.length(), 2);
         } else if (last >= feet || last < first) {
-            fails(text, text.length() - 1 - String.valueOf(last).length(), 2);
+            Check.textFails(text, text.length() - 1 - String.valueOf(last).length(), 2);
         } else {
             ThreadHouse house = Check.house(text);
             boolean fixes = begin.endsWith("fixed ");
@@ -282,41 +270,41 @@ public final class EdgeTextTest {
             text.append(n % 2 == 0 ? "alarm hour>0 for 1;" : "alarm hour=0 for 1;");
         }
         Check.sentence("a seventh alarm (at its WORD)");
-        fails(text.toString(), 7 + 6 * 19, 3);
-        fails("alarm sum<1 for 1;".repeat(6) + "alarm", 108, 3);
-        fails("alarm sum<1 for 1;".repeat(6) + "pull 1;alarm x", 115, 3);
-        fails("alarm sum<1 for 1;".repeat(6) + "alarmed", 108, 1);
-        holds("alarm sum<1 for 1;".repeat(6) + "pull 1;", 7);
+        Check.textFails(text.toString(), 7 + 6 * 19, 3);
+        Check.textFails("alarm sum<1 for 1;".repeat(6) + "alarm", 108, 3);
+        Check.textFails("alarm sum<1 for 1;".repeat(6) + "pull 1;alarm x", 115, 3);
+        Check.textFails("alarm sum<1 for 1;".repeat(6) + "alarmed", 108, 1);
+        Check.textHolds("alarm sum<1 for 1;".repeat(6) + "pull 1;", 7);
     }
 
     private static void conds() {
         Check.sentence("COND: ALL { 'or' ALL }. ALL: ONE { 'and' ONE }.");
-        fails("alarm for 1;", 6, 1);
-        fails("alarm or sum<1 for 1;", 6, 1);
-        fails("alarm and sum<1 for 1;", 6, 1);
-        fails("alarm sum<1 or for 1;", 15, 1);
-        fails("alarm sum<1 and for 1;", 16, 1);
-        fails("alarm sum<1 or and sum<1 for 1;", 15, 1);
-        fails("alarm sum<1 sum<1 for 1;", 12, 1);
-        fails("alarm sum<1 not sum<1 for 1;", 12, 1);
-        fails("alarm sum<1;", 11, 1);
+        Check.textFails("alarm for 1;", 6, 1);
+        Check.textFails("alarm or sum<1 for 1;", 6, 1);
+        Check.textFails("alarm and sum<1 for 1;", 6, 1);
+        Check.textFails("alarm sum<1 or for 1;", 15, 1);
+        Check.textFails("alarm sum<1 and for 1;", 16, 1);
+        Check.textFails("alarm sum<1 or and sum<1 for 1;", 15, 1);
+        Check.textFails("alarm sum<1 sum<1 for 1;", 12, 1);
+        Check.textFails("alarm sum<1 not sum<1 for 1;", 12, 1);
+        Check.textFails("alarm sum<1;", 11, 1);
         Check.sentence("'not' ONE | ( COND )");
-        fails("alarm not for 1;", 10, 1);
-        fails("alarm not or sum<1 for 1;", 10, 1);
-        fails("alarm () for 1;", 7, 1);
-        fails("alarm (sum<1 for 1;", 13, 1);
-        fails("alarm (sum<1)) for 1;", 13, 1);
-        fails("alarm ) for 1;", 6, 1);
-        holds("alarm (sum<1) for 1;", 1);
-        holds("alarm not not sum<1 for 1;", 1);
+        Check.textFails("alarm not for 1;", 10, 1);
+        Check.textFails("alarm not or sum<1 for 1;", 10, 1);
+        Check.textFails("alarm () for 1;", 7, 1);
+        Check.textFails("alarm (sum<1 for 1;", 13, 1);
+        Check.textFails("alarm (sum<1)) for 1;", 13, 1);
+        Check.textFails("alarm ) for 1;", 6, 1);
+        Check.textHolds("alarm (sum<1) for 1;", 1);
+        Check.textHolds("alarm not not sum<1 for 1;", 1);
         Check.sentence("SIGN: < = >.");
-        holds("alarm sum<1 or peak=1 or slips>1 for 1;", 1);
-        fails("alarm sum 1 for 1;", 10, 1);
-        fails("alarm sum<=1 for 1;", 10, 1);
-        fails("alarm sum=<1 for 1;", 10, 1);
-        fails("alarm sum! 1 for 1;", 9, 1);
-        fails("alarm sum; 1 for 1;", 9, 1);
-        fails("alarm sum< for 1;", 11, 1);
+        Check.textHolds("alarm sum<1 or peak=1 or slips>1 for 1;", 1);
+        Check.textFails("alarm sum 1 for 1;", 10, 1);
+        Check.textFails("alarm sum<=1 for 1;", 10, 1);
+        Check.textFails("alarm sum=<1 for 1;", 10, 1);
+        Check.textFails("alarm sum! 1 for 1;", 9, 1);
+        Check.textFails("alarm sum; 1 for 1;", 9, 1);
+        Check.textFails("alarm sum< for 1;", 11, 1);
     }
 
     private static void atFeet() {
@@ -324,8 +312,8 @@ public final class EdgeTextTest {
         range(n -> "feet 4;alarm at " + n + "=0 for 1;", 0, 3, 16, 1);
         range(n -> "alarm at " + n + "=0 for 1;", 0, 23, 9, 1);
         range(n -> "feet 48;alarm at " + n + "=0 for 1;", 0, 47, 17, 1);
-        fails("alarm at=0 for 1;", 8, 1);
-        fails("alarm at 0 0=0 for 1;", 11, 1);
+        Check.textFails("alarm at=0 for 1;", 8, 1);
+        Check.textFails("alarm at 0 0=0 for 1;", 11, 1);
     }
 
     private static void anyNumbers() {
@@ -334,35 +322,35 @@ public final class EdgeTextTest {
         int[] numbers = {0, 1, 48, 99, 100, 9999};
         for (String measure : measures) {
             for (int number : numbers) {
-                holds("alarm " + measure + ">" + number + " for 1;", 1);
+                Check.textHolds("alarm " + measure + ">" + number + " for 1;", 1);
             }
-            fails("alarm " + measure + ">10000 for 1;", 7 + measure.length(), 1);
+            Check.textFails("alarm " + measure + ">10000 for 1;", 7 + measure.length(), 1);
         }
     }
 
     private static void ones() {
         Check.sentence("No more than 40 ONES in a text");
         String plain = "alarm " + "sum<1 or ".repeat(39) + "sum<1 ";
-        holds(plain + "for 1;", 1);
+        Check.textHolds(plain + "for 1;", 1);
         String turned = "alarm " + "not sum<1 or ".repeat(19) + "not sum<1 ";
-        holds(turned + "for 1;", 1);
+        Check.textHolds(turned + "for 1;", 1);
         String round = "alarm " + "(sum<1)or".repeat(19) + "(sum<1)";
-        holds(round + "for 1;", 1);
+        Check.textHolds(round + "for 1;", 1);
         String six = "alarm not not not not not sum<1 for 1;".repeat(5) + "alarm " + "not ".repeat(9) + "sum<1";
-        holds(six + " for 1;", 6);
+        Check.textHolds(six + " for 1;", 6);
         Check.sentence("4 a 41st ONE, an eleventh within (at its first TOKEN)");
-        fails(plain + "or sum<1 for 1;", 6 + 360, 4);
-        fails(plain + "and not sum<1 for 1;", 6 + 361, 4);
-        fails(plain + "or ( sum<1 ) for 1;", 6 + 360, 4);
-        fails(plain + "or at 99<1 for 1;", 6 + 360, 4);
-        fails(turned + "and sum<1 for 1;", turned.length() + 4, 4);
-        fails(turned + "or not sum<1 for 1;", turned.length() + 3, 4);
-        fails("alarm not " + turned.substring(6) + "for 1;", 4 + turned.length() - 6, 4);
-        fails(round + "or(sum<1)for 1;", round.length() + 2, 4);
-        fails("alarm sum<1 or" + round.substring(6) + "for 1;", 8 + round.length() - 6, 4);
-        fails(six + " or sum<1 for 1;", six.length() + 4, 4);
-        fails(six + " or sum", six.length() + 4, 4);
-        fails(six + " for 1;pull 0;", six.length() + 12, 2);
+        Check.textFails(plain + "or sum<1 for 1;", 6 + 360, 4);
+        Check.textFails(plain + "and not sum<1 for 1;", 6 + 361, 4);
+        Check.textFails(plain + "or ( sum<1 ) for 1;", 6 + 360, 4);
+        Check.textFails(plain + "or at 99<1 for 1;", 6 + 360, 4);
+        Check.textFails(turned + "and sum<1 for 1;", turned.length() + 4, 4);
+        Check.textFails(turned + "or not sum<1 for 1;", turned.length() + 3, 4);
+        Check.textFails("alarm not " + turned.substring(6) + "for 1;", 4 + turned.length() - 6, 4);
+        Check.textFails(round + "or(sum<1)for 1;", round.length() + 2, 4);
+        Check.textFails("alarm sum<1 or" + round.substring(6) + "for 1;", 8 + round.length() - 6, 4);
+        Check.textFails(six + " or sum<1 for 1;", six.length() + 4, 4);
+        Check.textFails(six + " or sum", six.length() + 4, 4);
+        Check.textFails(six + " for 1;pull 0;", six.length() + 12, 2);
         ThreadHouse again = Check.house(plain + "for 1;");
         for (int more = 0; more < 4; more++) {
             Check.same("counted anew in the next text", Check.text(again, turned + "for 1;"), 1);
@@ -387,48 +375,48 @@ public final class EdgeTextTest {
         Check.sentence("no more than 10 within one another.");
         for (int nots = 0; nots <= 9; nots++) {
             String mixed = "not ".repeat(nots) + "(".repeat(9 - nots) + "sum<1" + ")".repeat(9 - nots);
-            holds("alarm " + mixed + " for 1;", 1);
-            holds("alarm " + mixed + " and " + mixed + " or " + mixed.replace("sum<1", "sum<1 or sum<1 and sum<1") + " for 1;", 1);
+            Check.textHolds("alarm " + mixed + " for 1;", 1);
+            Check.textHolds("alarm " + mixed + " and " + mixed + " or " + mixed.replace("sum<1", "sum<1 or sum<1 and sum<1") + " for 1;", 1);
         }
         Check.sentence("an eleventh within (at its first TOKEN)");
         for (int nots = 0; nots <= 10; nots++) {
             String begin = "alarm " + "not ".repeat(nots) + "(".repeat(10 - nots);
-            fails(begin + "sum<1", begin.length(), 4);
-            fails(begin + " not sum<1", begin.length() + 1, 4);
-            fails(begin + "(sum<1", begin.length(), 4);
-            fails("alarm sum<1 or " + begin.substring(6) + "at 99<1", begin.length() + 9, 4);
+            Check.textFails(begin + "sum<1", begin.length(), 4);
+            Check.textFails(begin + " not sum<1", begin.length() + 1, 4);
+            Check.textFails(begin + "(sum<1", begin.length(), 4);
+            Check.textFails("alarm sum<1 or " + begin.substring(6) + "at 99<1", begin.length() + 9, 4);
         }
-        fails("alarm (((((((((sum<1 or (sum<1", 24 + 1, 4);
-        fails("alarm (((((((((sum<1 or not sum<1", 24 + 4, 4);
+        Check.textFails("alarm (((((((((sum<1 or (sum<1", 24 + 1, 4);
+        Check.textFails("alarm (((((((((sum<1 or not sum<1", 24 + 4, 4);
     }
 
     private static void firstFault() {
         Check.sentence("FAULTS, the first along the text");
-        fails("pull 0;pull 0;", 5, 2);
-        fails("pull 1;pull 0;", 7, 3);
-        fails("pull 1;heat 0;pull 1;", 12, 2);
-        fails("heat 99 ? 12345", 5, 2);
-        fails("? heat 99;", 0, 1);
-        fails("feet 3;fixed 9 to 1;", 5, 2);
-        fails("fixed 24 to 5;", 6, 2);
-        fails("fixed 24 x", 6, 2);
-        fails("alarm sum<1 for 0;alarm", 16, 2);
-        fails("alarm at 24 ! 1 for 0;", 9, 2);
+        Check.textFails("pull 0;pull 0;", 5, 2);
+        Check.textFails("pull 1;pull 0;", 7, 3);
+        Check.textFails("pull 1;heat 0;pull 1;", 12, 2);
+        Check.textFails("heat 99 ? 12345", 5, 2);
+        Check.textFails("? heat 99;", 0, 1);
+        Check.textFails("feet 3;fixed 9 to 1;", 5, 2);
+        Check.textFails("fixed 24 to 5;", 6, 2);
+        Check.textFails("fixed 24 x", 6, 2);
+        Check.textFails("alarm sum<1 for 0;alarm", 16, 2);
+        Check.textFails("alarm at 24 ! 1 for 0;", 9, 2);
     }
 
     private static void leastFault() {
         Check.sentence("of one TOKEN the least");
-        fails("pull 00010;", 5, 1);
-        fails("fixed 3 to 00001;", 11, 1);
+        Check.textFails("pull 00010;", 5, 1);
+        Check.textFails("fixed 3 to 00001;", 11, 1);
         String full = "alarm " + "sum<1 or ".repeat(40);
-        fails(full + "for 1;", full.length(), 1);
-        fails(full + "1;", full.length(), 1);
-        fails(full + ")", full.length(), 1);
-        fails(full + "summ<1", full.length(), 1);
-        fails("alarm " + "not ".repeat(10) + "for 1;", 46, 1);
-        fails("alarm " + "(".repeat(10) + ")", 16, 1);
-        fails("fixed 1 to 2;".repeat(24) + "and", 312, 1);
-        fails("fixed 1 to 2;".repeat(24) + "pull1", 312, 1);
+        Check.textFails(full + "for 1;", full.length(), 1);
+        Check.textFails(full + "1;", full.length(), 1);
+        Check.textFails(full + ")", full.length(), 1);
+        Check.textFails(full + "summ<1", full.length(), 1);
+        Check.textFails("alarm " + "not ".repeat(10) + "for 1;", 46, 1);
+        Check.textFails("alarm " + "(".repeat(10) + ")", 16, 1);
+        Check.textFails("fixed 1 to 2;".repeat(24) + "and", 312, 1);
+        Check.textFails("fixed 1 to 2;".repeat(24) + "pull1", 312, 1);
     }
 
     private static void atTheEnd() {
@@ -441,58 +429,58 @@ public final class EdgeTextTest {
             Check.same("text() of " + part, Check.text(house, part), second.answer());
             Check.same("fault() of " + part, house.fault(), second.kind());
         }
-        fails("feet", 4, 1);
-        fails("feet ", 5, 1);
-        fails("feet 4", 6, 1);
-        fails("feet 4\n\n", 8, 1);
-        fails("alarm sum<1 for 1", 17, 1);
-        fails("pull 1;heat", 11, 1);
-        fails(BLANKS.substring(0, 396) + "pull", 400, 1);
-        fails(BLANKS.substring(0, 395) + "pull", 399, 1);
+        Check.textFails("feet", 4, 1);
+        Check.textFails("feet ", 5, 1);
+        Check.textFails("feet 4", 6, 1);
+        Check.textFails("feet 4\n\n", 8, 1);
+        Check.textFails("alarm sum<1 for 1", 17, 1);
+        Check.textFails("pull 1;heat", 11, 1);
+        Check.textFails(BLANKS.substring(0, 396) + "pull", 400, 1);
+        Check.textFails(BLANKS.substring(0, 395) + "pull", 399, 1);
     }
 
     private static void tooLong() {
         Check.sentence("A TEXT of at most 400 bytes.");
-        holds("pull 5;" + BLANKS.substring(0, 393), 1);
-        holds(BLANKS.substring(0, 393) + "pull 5;", 1);
-        holds(BLANKS.substring(0, 400), 0);
+        Check.textHolds("pull 5;" + BLANKS.substring(0, 393), 1);
+        Check.textHolds(BLANKS.substring(0, 393) + "pull 5;", 1);
+        Check.textHolds(BLANKS.substring(0, 400), 0);
         Check.sentence("400, if there are more and no FAULT is ahead");
-        fails("pull 5;" + BLANKS.substring(0, 394), 400, 1);
-        fails(BLANKS.substring(0, 394) + "pull 5;", 400, 1);
-        fails(BLANKS.substring(0, 401), 400, 1);
-        fails(BLANKS, 400, 1);
-        fails(BLANKS.substring(0, 400) + ";", 400, 1);
-        fails(BLANKS.substring(0, 400) + "?", 400, 1);
-        fails("pull 5;" + BLANKS.substring(0, 393) + "heat 5;", 400, 1);
-        fails("pull 5;" + BLANKS.substring(0, 393) + "pull 5;", 400, 1);
-        fails("pull 5" + BLANKS.substring(0, 394) + ";", 400, 1);
-        fails("pull 0;" + BLANKS.substring(0, 433), 5, 2);
-        fails("pull 1;pull 1;" + BLANKS.substring(0, 426), 7, 3);
-        fails(BLANKS.substring(0, 399) + "?" + BLANKS.substring(0, 40), 399, 1);
-        fails(BLANKS.substring(0, 399) + ";;", 399, 1);
+        Check.textFails("pull 5;" + BLANKS.substring(0, 394), 400, 1);
+        Check.textFails(BLANKS.substring(0, 394) + "pull 5;", 400, 1);
+        Check.textFails(BLANKS.substring(0, 401), 400, 1);
+        Check.textFails(BLANKS, 400, 1);
+        Check.textFails(BLANKS.substring(0, 400) + ";", 400, 1);
+        Check.textFails(BLANKS.substring(0, 400) + "?", 400, 1);
+        Check.textFails("pull 5;" + BLANKS.substring(0, 393) + "heat 5;", 400, 1);
+        Check.textFails("pull 5;" + BLANKS.substring(0, 393) + "pull 5;", 400, 1);
+        Check.textFails("pull 5" + BLANKS.substring(0, 394) + ";", 400, 1);
+        Check.textFails("pull 0;" + BLANKS.substring(0, 433), 5, 2);
+        Check.textFails("pull 1;pull 1;" + BLANKS.substring(0, 426), 7, 3);
+        Check.textFails(BLANKS.substring(0, 399) + "?" + BLANKS.substring(0, 40), 399, 1);
+        Check.textFails(BLANKS.substring(0, 399) + ";;", 399, 1);
     }
 
     private static void readWhole() {
         Check.sentence("TOKENS that begin ahead of it are read whole)");
-        fails(BLANKS.substring(0, 399) + "pull 5;", 400, 1);
-        fails(BLANKS.substring(0, 399) + "pulx 5;", 399, 1);
-        fails(BLANKS.substring(0, 399) + "pull5;", 399, 1);
-        fails(BLANKS.substring(0, 400) + "pulx 5;", 400, 1);
-        fails(BLANKS.substring(0, 397) + "pull", 400, 1);
-        fails("pull 5;" + BLANKS.substring(0, 392) + "pull", 399, 3);
-        fails("pull 5;" + BLANKS.substring(0, 393) + "pull", 400, 1);
-        fails("pull " + BLANKS.substring(0, 394) + "5;", 400, 1);
-        fails("pull " + BLANKS.substring(0, 394) + "55;", 399, 2);
-        fails("pull " + BLANKS.substring(0, 394) + "0005;", 400, 1);
-        fails("pull " + BLANKS.substring(0, 394) + "00005;", 399, 1);
-        fails("pull " + BLANKS.substring(0, 394) + "5x;", 399, 1);
-        fails("pull " + BLANKS.substring(0, 395) + "55;", 400, 1);
-        fails("x".repeat(440), 0, 1);
-        fails(BLANKS.substring(0, 390) + "x".repeat(50), 390, 1);
+        Check.textFails(BLANKS.substring(0, 399) + "pull 5;", 400, 1);
+        Check.textFails(BLANKS.substring(0, 399) + "pulx 5;", 399, 1);
+        Check.textFails(BLANKS.substring(0, 399) + "pull5;", 399, 1);
+        Check.textFails(BLANKS.substring(0, 400) + "pulx 5;", 400, 1);
+        Check.textFails(BLANKS.substring(0, 397) + "pull", 400, 1);
+        Check.textFails("pull 5;" + BLANKS.substring(0, 392) + "pull", 399, 3);
+        Check.textFails("pull 5;" + BLANKS.substring(0, 393) + "pull", 400, 1);
+        Check.textFails("pull " + BLANKS.substring(0, 394) + "5;", 400, 1);
+        Check.textFails("pull " + BLANKS.substring(0, 394) + "55;", 399, 2);
+        Check.textFails("pull " + BLANKS.substring(0, 394) + "0005;", 400, 1);
+        Check.textFails("pull " + BLANKS.substring(0, 394) + "00005;", 399, 1);
+        Check.textFails("pull " + BLANKS.substring(0, 394) + "5x;", 399, 1);
+        Check.textFails("pull " + BLANKS.substring(0, 395) + "55;", 400, 1);
+        Check.textFails("x".repeat(440), 0, 1);
+        Check.textFails(BLANKS.substring(0, 390) + "x".repeat(50), 390, 1);
         String full = "alarm " + "sum<1 or ".repeat(40);
-        fails(full + BLANKS.substring(0, 399 - full.length()) + "sum<1", 399, 4);
-        fails(full + BLANKS.substring(0, 400 - full.length()) + "sum<1", 400, 1);
-        fails(full + BLANKS.substring(0, 399 - full.length()) + "sun<1", 399, 1);
+        Check.textFails(full + BLANKS.substring(0, 399 - full.length()) + "sum<1", 399, 4);
+        Check.textFails(full + BLANKS.substring(0, 400 - full.length()) + "sum<1", 400, 1);
+        Check.textFails(full + BLANKS.substring(0, 399 - full.length()) + "sun<1", 399, 1);
     }
 
     private static void toldTwice() {
@@ -500,19 +488,19 @@ public final class EdgeTextTest {
         String[] words = {"pull", "heat", "noise"};
         for (String word : words) {
             int length = word.length() + 3;
-            fails(word + " 1;" + word + " 1;", length, 3);
-            fails(word + " 1;" + word, length, 3);
-            fails(word + " 1;fixed 0 to 0; " + word + " 99;", length + 14, 3);
+            Check.textFails(word + " 1;" + word + " 1;", length, 3);
+            Check.textFails(word + " 1;" + word, length, 3);
+            Check.textFails(word + " 1;fixed 0 to 0; " + word + " 99;", length + 14, 3);
             for (String other : words) {
                 if (!other.equals(word)) {
-                    holds(word + " 1;" + other + " 1;", 2);
-                    fails(word + " 1;" + other + " 1;" + word + " 1;", length + other.length() + 3, 3);
+                    Check.textHolds(word + " 1;" + other + " 1;", 2);
+                    Check.textFails(word + " 1;" + other + " 1;" + word + " 1;", length + other.length() + 3, 3);
                 }
             }
             ThreadHouse again = Check.house(word + " 1;");
             Check.same(word + " in the next text", Check.text(again, word + " 2;"), 1);
         }
-        holds("fixed 0 to 0;fixed 0 to 0;holds 1 from 0 to 0;holds 1 from 0 to 0;", 4);
+        Check.textHolds("fixed 0 to 0;fixed 0 to 0;holds 1 from 0 to 0;holds 1 from 0 to 0;", 4);
     }
 
     private static void fixedAndHold() {
