@@ -7,6 +7,7 @@ public final class EdgeAlarmTest {
     public static void main(String[] args) {
         hoursAhead();
         brokenRun();
+        truths();
         measures();
         mostMeasured();
         hourNumbers();
@@ -50,6 +51,31 @@ public final class EdgeAlarmTest {
                 }
             }
         }
+    }
+
+    private static void truths() {
+        Check.sentence("COND: ALL { 'or' ALL }. ALL: ONE { 'and' ONE }.");
+        String[] conds = {"A", "not A", "not not A", "(A)", "A and B", "A and (B)", "(A) and B", "A or B", "A or (B)", "not A and B",
+            "not (A and B)", "not A or B", "not (A or B)", "A and B or C", "A or B and C", "(A or B) and C", "A and (B or C)",
+            "A and not (B and (C))", "not (A or not (B or C))", "A or B or C", "A and B and C"};
+        for (int row = 0; row < 8; row++) {
+            boolean a = (row & 1) != 0;
+            boolean b = (row & 2) != 0;
+            boolean c = (row & 4) != 0;
+            boolean[] due = {a, !a, a, a, a && b, a && b, a && b, a || b, a || b, !a && b,
+                !(a && b), !a || b, !(a || b), a && b || c, a || b && c, (a || b) && c, a && (b || c),
+                a && !(b && c), !(a || !(b || c)), a || b || c, a && b && c};
+            for (int n = 0; n < conds.length; n++) {
+                String cond = conds[n].replace("A", one(a)).replace("B", one(b)).replace("C", one(c));
+                ThreadHouse house = Check.house("feet 4;alarm " + cond + " for 1;");
+                Check.hour(house, new int[8]);
+                Check.same(cond, house.alarm(0, 0, 0), due[n] ? 1 : 0);
+            }
+        }
+    }
+
+    private static String one(boolean holds) {
+        return holds ? "hour=0" : "hour>0";
     }
 
     private static void measured(String measure, int due, int[] rows) {

@@ -42,6 +42,13 @@ public final class EdgeLinedTest {
         for (int k = 0; k <= 3; k++) {
             Check.same("paired(" + k + ")", house.paired(k), NONE);
         }
+        Check.same("the second at its end", Check.lined(house, 3, 0, 5, 0, 0, 5), 0);
+        Check.same("paired(0)", house.paired(0), 0);
+        Check.same("paired(1)", house.paired(1), NONE);
+        Check.same("paired(2)", house.paired(2), NONE);
+        Check.same("the first at its end", Check.lined(house, 1, 1, 5, 0, 5, 5), 2);
+        Check.same("paired(0)", house.paired(0), 1);
+        Check.same("paired(1)", house.paired(1), NONE);
     }
 
     private static void fullRows() {
@@ -125,6 +132,10 @@ public final class EdgeLinedTest {
         Check.same("either way", Check.lined(house, 2, 1, 1, 9, 9, 1), 2);
         Check.same("the first of the first row alone", house.paired(0), NONE);
         Check.same("its second", house.paired(1), 0);
+        Check.same("likewise further on", Check.lined(house, 3, 1, 7, 1, 9, 7, 9, 1), 2);
+        Check.same("7", house.paired(0), 0);
+        Check.same("1 alone", house.paired(1), NONE);
+        Check.same("9", house.paired(2), 1);
         Check.same("all free", Check.lined(house, 3, 0, 1, 2, 3, 2, 3, 1), 0);
         Check.same("1", house.paired(0), NONE);
         Check.same("2", house.paired(1), 0);

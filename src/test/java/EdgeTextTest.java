@@ -245,8 +245,10 @@ public final class EdgeTextTest {
         }
         Check.sentence("pull, heat, noise once each: 1, 1, 0 without.)");
         ThreadHouse house = Check.house("pull 9;heat 9;noise 9;");
-        Check.text(house, "feet 4;");
-        Check.same("noise without", house.falseShare(1, 0, 1), 1);
+        for (int text = 0; text < 3; text++) {
+            Check.same("the next text", Check.text(house, "feet 4;"), 0);
+            Check.same("noise without", house.falseShare(1, 0, 1), 1);
+        }
         Check.hour(house, 3, 0, 0, 0, 5, 0, 0, 0);
         Check.same("pull and heat without", house.read(0, 0, 0, 0), 16);
     }
@@ -357,10 +359,11 @@ public final class EdgeTextTest {
             Check.same("and behind a FAULT", Check.text(again, plain + "for 0;"), -1 - plain.length() - 4);
             Check.same("and in the next one", Check.text(again, plain + "for 1;"), 1);
         }
-        Check.same("a last text", Check.text(again, "alarm hour=0 or sum>0 for 1;alarm not hour=0 for 1;"), 2);
+        Check.same("a last text", Check.text(again, "alarm hour>0 for 1;alarm hour=0 for 1;alarm sum>0 for 1;alarm sum=0 for 1;"), 4);
         Check.hour(again, new int[48]);
-        Check.same("its first ALARM", again.alarm(0, 0, 0), 1);
-        Check.same("its second ALARM", again.alarm(1, 0, 0), 0);
+        for (int k = 0; k < 4; k++) {
+            Check.same("its ALARM " + k, again.alarm(k, 0, 0), k % 2);
+        }
         ThreadHouse most = Check.house("feet 4;alarm " + "sum>9 or ".repeat(39) + "hour=0 for 1;");
         Check.hour(most, new int[8]);
         Check.same("the 40th ONE counts", most.alarm(0, 0, 0), 1);
@@ -476,6 +479,10 @@ public final class EdgeTextTest {
         Check.textFails("pull " + BLANKS.substring(0, 394) + "5x;", 399, 1);
         Check.textFails("pull " + BLANKS.substring(0, 395) + "55;", 400, 1);
         Check.textFails("x".repeat(440), 0, 1);
+        Check.textFails(";".repeat(400), 0, 1);
+        Check.textFails("(".repeat(440), 0, 1);
+        Check.textFails("alarm" + "(".repeat(395), 15, 4);
+        Check.textFails("alarm" + "(".repeat(435), 15, 4);
         Check.textFails(BLANKS.substring(0, 390) + "x".repeat(50), 390, 1);
         String full = "alarm " + "sum<1 or ".repeat(40);
         Check.textFails(full + BLANKS.substring(0, 399 - full.length()) + "sum<1", 399, 4);
@@ -512,10 +519,13 @@ public final class EdgeTextTest {
             Check.same("FIXED " + i, house.foot(i, 0), fixed[i]);
             Check.same("HOLD " + i, house.foot(i, 1), hold[i]);
         }
-        Check.same("the next text", Check.text(house, "feet 6;"), 0);
-        for (int i = 0; i < 6; i++) {
-            Check.same("FIXED " + i, house.foot(i, 0), 0);
-            Check.same("HOLD " + i, house.foot(i, 1), 10);
+        Check.text(house, "feet 6;holds 7 from 0 to 5;fixed 0 to 5;");
+        for (int text = 0; text < 3; text++) {
+            Check.same("the next text", Check.text(house, "feet 6;"), 0);
+            for (int i = 0; i < 6; i++) {
+                Check.same("FIXED " + i, house.foot(i, 0), 0);
+                Check.same("HOLD " + i, house.foot(i, 1), 10);
+            }
         }
     }
 
