@@ -20,6 +20,7 @@ public final class EdgeHourTest {
         holdOfTheFirst();
         firstPair();
         stopped();
+        stoppedFurtherOn();
         boxes();
         noSuchFelt();
         noSuchSlips();
@@ -331,7 +332,7 @@ public final class EdgeHourTest {
         Check.same("SLIPS", house.slips(0, 0), 2);
     }
 
-    /** Ninety-nine and eighty-five, ahead of the turn and behind it; one foot otherwise. */
+    /** So much ahead of the turn, as much below 0 from it on; one foot otherwise. */
     private static int[] swing(int turn, int ahead, int foot, int there) {
         int[] row = new int[96];
         for (int i = 0; i < 48; i++) {
@@ -362,6 +363,27 @@ public final class EdgeHourTest {
                 moved += house.felt(i, 3, 0) == house.felt(i, 2, 0) ? 0 : 1;
             }
             Check.same("feet that feel otherwise then", moved, 2 * left);
+        }
+    }
+
+    /** Where the first foot is FIXED no SLIP is at the first pair: the longest way to 100000. */
+    private static void stoppedFurtherOn() {
+        ThreadHouse house = Check.house("feet 48;holds 1 from 0 to 47;fixed 0 to 0;");
+        PlainHouse plain = new PlainHouse(48);
+        plain.hold(1, 0, 47);
+        plain.fix(0, 0);
+        int[][] rows = {swing(31, -99, 0, 0), swing(21, -99, 0, 0), swing(24, 99, 0, 0), swing(24, 99, 0, 0)};
+        for (int h = 0; h < rows.length; h++) {
+            Check.hour(house, rows[h]);
+            plain.tell(h, 0, rows[h]);
+        }
+        Check.same("stopped", house.slips(2, 0), 100000);
+        for (int h = 2; h < rows.length; h++) {
+            int[] due = plain.feel(h, 0);
+            Check.same("SLIPS of HOUR " + h, house.slips(h, 0), due[48]);
+            for (int i = 0; i < 48; i++) {
+                Check.same("foot " + i + " in HOUR " + h, house.felt(i, h, 0), due[i]);
+            }
         }
     }
 
