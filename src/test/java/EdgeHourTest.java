@@ -231,8 +231,14 @@ public final class EdgeHourTest {
         Check.same("foot 0", house.felt(0, 0, 0), 99);
         Check.same("foot 1", house.felt(1, 0, 0), 0);
         Check.same("foot 3", house.felt(3, 0, 0), -99);
+        Check.sentence("CHANGE of an HOUR: what each foot feels, less what it felt in the HOUR ahead (0 ahead of the first).");
         Check.same("its CHANGE", house.alarm(0, 0, 0), 1);
         Check.same("its LOUDNESS", house.walk(0, 0, 0, 0), 99);
+        Check.hour(house, 99, 0, 0, -99, 0, 0, 0, 0);
+        Check.same("no CHANGE then", house.walk(1, 1, 0, 0), 0);
+        Check.hour(house, 0, 0, 0, 99, 0, 0, 0, 0);
+        Check.same("its CHANGE then", house.walk(2, 2, 0, 0), 198);
+        Check.same("there", house.walked(0), 3);
     }
 
     private static void stretchesMore() {

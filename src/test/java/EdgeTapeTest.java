@@ -17,6 +17,7 @@ public final class EdgeTapeTest {
         counts();
         fullCounts();
         otherCounts();
+        usedUp();
         manyCalls();
         Check.finish();
     }
@@ -182,6 +183,8 @@ public final class EdgeTapeTest {
     }
 
     private static void lastDay() {
+        Check.sentence("TODAY is day 0 at first, 999 the last one.");
+        Check.same("at first", new ThreadHouse().count(0), 0);
         Check.sentence("or it would be behind 999.");
         ThreadHouse house = new ThreadHouse();
         Check.same("next(1)", house.next(1), 1);
@@ -239,6 +242,40 @@ public final class EdgeTapeTest {
         int[] others = {-1, -2, LEAST, 6, 7, MOST};
         for (int what : others) {
             Check.same("count(" + what + ")", new ThreadHouse().count(what), NONE);
+        }
+    }
+
+    private static void usedUp() {
+        Check.sentence("The tape (empty then, here and below) is the TEXT now");
+        int[] lengths = {0, 1, 4, 8, 20, 400, 440};
+        for (int hours = 0; hours <= 1; hours++) {
+            for (int length : lengths) {
+                for (int call = 0; call < 16; call++) {
+                    ThreadHouse house = Check.house("feet 4;");
+                    for (int h = 0; h < hours; h++) {
+                        Check.hour(house, new int[8]);
+                    }
+                    int[] bytes = new int[length];
+                    java.util.Arrays.fill(bytes, call < 8 ? 0 : ' ');
+                    Check.tape(house, bytes);
+                    use(house, call % 8);
+                    Check.same("the tape behind call " + call % 8 + " with " + length, house.count(5), 0);
+                    Check.same("fed anew", house.feed(0, 0, 0, 0, 0), 20);
+                }
+            }
+        }
+    }
+
+    private static void use(ThreadHouse house, int call) {
+        switch (call) {
+            case 0: house.text(); break;
+            case 1: house.hour(); break;
+            case 2: house.mend(0); break;
+            case 3: house.tellings(); break;
+            case 4: house.shape(0); break;
+            case 5: house.explain(); break;
+            case 6: house.lined(1, 5); break;
+            default: house.gauges(); break;
         }
     }
 

@@ -24,6 +24,7 @@ public final class EdgeTextTest {
         anyNumbers();
         ones();
         within();
+        numberFaults();
         firstFault();
         leastFault();
         atTheEnd();
@@ -391,6 +392,22 @@ public final class EdgeTextTest {
         }
         Check.textFails("alarm (((((((((sum<1 or (sum<1", 24 + 1, 4);
         Check.textFails("alarm (((((((((sum<1 or not sum<1", 24 + 4, 4);
+    }
+
+    private static void numberFaults() {
+        Check.sentence("2 a NUMBER that is not as told (at it");
+        Check.textFails("feet 3;", 5, 2);
+        Check.textFails(" feet\n 49 ;", 7, 2);
+        Check.textFails("feet 4;fixed 4 to 0;", 13, 2);
+        Check.textFails("feet 4;fixed 3 to 2;", 18, 2);
+        Check.textFails("feet 4;holds 0 from 0 to 0;", 13, 2);
+        Check.textFails("feet 4;holds 1 from 4 to 0;", 20, 2);
+        Check.textFails("feet 4;holds 1 from 1 to 0;", 25, 2);
+        Check.textFails("feet 4;pull 0;", 12, 2);
+        Check.textFails("feet 4;heat 10;", 12, 2);
+        Check.textFails("feet 4;noise 10;", 13, 2);
+        Check.textFails("feet 4;alarm at 4<0 for 0;", 16, 2);
+        Check.textFails("feet 4;alarm at 3<0 for 0;", 24, 2);
     }
 
     private static void firstFault() {

@@ -5,7 +5,6 @@ public final class TapeTest {
         feeding();
         ending();
         days();
-        usedUp();
         highestFirst();
         Check.finish();
     }
@@ -74,36 +73,6 @@ public final class TapeTest {
         Check.same("next(MAX)", house.next(Integer.MAX_VALUE), -1);
         Check.same("next(0)", house.next(0), 999);
         Check.same("new next(999)", new ThreadHouse().next(999), 999);
-    }
-
-    /** Each call that uses the tape leaves it empty, whatever it answers. */
-    private static void usedUp() {
-        ThreadHouse house = new ThreadHouse();
-        for (int round = 0; round < 2; round++) {
-            for (int call = 0; call < 8; call++) {
-                Check.tape(house, new int[33]);
-                Check.same("fed", house.count(5), 33);
-                use(house, call);
-                Check.same("empty behind call " + call, house.count(5), 0);
-            }
-            Check.same("hour", Check.hour(house, new int[48]), round);
-            Check.same("empty behind an hour", house.count(5), 0);
-            Check.same("mend", Check.mend(house, 0, new int[48]), true);
-            Check.same("empty behind a mend", house.count(5), 0);
-        }
-    }
-
-    private static void use(ThreadHouse house, int call) {
-        switch (call) {
-            case 0: house.text(); break;
-            case 1: house.hour(); break;
-            case 2: house.mend(0); break;
-            case 3: house.tellings(); break;
-            case 4: house.shape(9); break;
-            case 5: house.explain(); break;
-            case 6: house.lined(-1, 0); break;
-            default: house.gauges(); break;
-        }
     }
 
     private static void highestFirst() {
